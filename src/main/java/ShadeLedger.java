@@ -684,14 +684,20 @@ public final class ShadeLedger {
             return cellsFor(market.stalls.height[stall], sun % 10);
         }
 
+        private boolean isInLine(int one, int other) {
+            int across = market.stalls.x[other] - market.stalls.x[one];
+            int down = market.stalls.y[other] - market.stalls.y[one];
+            return across == 0 || down == 0 || across == down || across == -down;
+        }
+
         /** The least slot that a sun must have so that one shades the other; NONE, if no sun can. */
         private int need(int one, int other) {
+            if (!isInLine(one, other)) {
+                return NONE;
+            }
             Stalls stalls = market.stalls;
             int across = stalls.x[other] - stalls.x[one];
             int down = stalls.y[other] - stalls.y[one];
-            if (across != 0 && down != 0 && across != down && across != -down) {
-                return NONE;
-            }
             int steps = Math.max(Math.abs(across), Math.abs(down));
             int tenths = cellsFor(stalls.height[one], 10);
             if (steps == 0 || tenths <= 0) {
@@ -1142,11 +1148,16 @@ public final class ShadeLedger {
             }
         }
 
-        private boolean isAsTold(int many) {
+        /** Whether the last one explains what all fish ahead of it tell. */
+        private boolean isAsTold(int last) {
             int[] cold = stalls().cold;
-            for (int i = 0; i < many; i++) {
-                if (cold[i] != NONE && shadows.chillOf(i) - chillNow[i] != cold[i]) {
-                    return false;
+            for (int i = 0; i < last; i++) {
+                if (cold[i] != NONE) {
+                    // What is in no line with a stall neither shades it nor keeps shadows off it.
+                    int more = shadows.isInLine(last, i) ? shadows.chillOf(i) - chillNow[i] : 0;
+                    if (more != cold[i]) {
+                        return false;
+                    }
                 }
             }
             return true;
