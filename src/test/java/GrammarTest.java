@@ -54,6 +54,9 @@ public final class GrammarTest {
         fault("fold 5;" + (char) 0, 1, 7);
         fault("fold 5;" + (char) 200, 1, 7);
         fault("foldfold 5;", 1, 0);
+        fault("foldz 5;", 1, 0);
+        fault("hold 5;", 1, 0);
+        fault("fole 5;", 1, 0);
         fault("a", 1, 0);
         fault("stall 0 0 1;awning;", 1, 18);
         fault("stall 0 0 1;awning 0;", 1, 20);

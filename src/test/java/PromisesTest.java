@@ -195,6 +195,12 @@ public final class PromisesTest {
         x.move(1, 2, 1);
         Check.same("14: 0 9 -18 9 -18 9 9", x.payments(9), 4);
         Check.same("14: nobody owes", x.payments(0), 0);
+        Check.same("14: the very first MINUTE", x.payments(1), 4);
+        StringBuilder four = new StringBuilder("field 2 4;");
+        for (int i = 0; i < 4; i++) {
+            four.append("stall 0 ").append(i).append(" 10;stall 1 ").append(i).append(" 0;");
+        }
+        Check.same("14: four pairs", Check.of(four + "sun 0 2 1 1;").payments(1440), 4);
     }
 
     private static void firstMinute() {
@@ -314,6 +320,10 @@ public final class PromisesTest {
                 + "stall 3 0 29;stall 1 1 21;grow 4 5 58;sun 18 2 1 1;sun 55 0 0 1;sun 23 0 1 5;fold 29;");
         Check.same("24: RING", ring.play(), 0);
         Check.same("25: till heights are as behind an earlier round", ring.rounds(), 4);
+        int one = ring.stall(1, 2);
+        Check.same("24: RING again", ring.play(), 0);
+        Check.same("25: till heights are as at the beginning", ring.rounds(), 3);
+        Check.same("24: as at the beginning", ring.stall(1, 2), one);
     }
 
     private static void coldFish() {
@@ -385,6 +395,10 @@ public final class PromisesTest {
             least = Math.min(least, x.clouds(i, 0));
             most = Math.max(most, x.clouds(i, 0));
         }
+        Check.same("31: two SEEDS", x.span(1, 2, 0) * 1000 + x.span(1, 2, 1), 1000
+                * Math.min(70, x.clouds(2, 0)) + Math.max(70, x.clouds(2, 0)));
+        Check.same("31: SEED 3 is another one", x.clouds(3, 0) == x.clouds(4, 0), false);
+        Check.same("31: SEEDS 3 and 4", x.span(3, 2, 1) - x.span(3, 2, 0), Math.abs(x.clouds(3, 0) - x.clouds(4, 0)));
         Check.same("31: least of six", x.span(-1, 6, 0), least);
         Check.same("31: greatest of six", x.span(-1, 6, 1), most);
         Check.same("31: it wraps", x.span(Integer.MAX_VALUE, 2, 0),
@@ -457,6 +471,8 @@ public final class PromisesTest {
         Check.same("36: nothing stays changed", y.stall(0, 3), 3);
         Check.same("37: twenty MINUTES by rate 2", x.lights(), 40);
         Check.same("37: none", Check.of(SQUARE).lights(), 0);
+        Check.same("37: on the first one", Check.of("stall 0 0 0;stall 1 0 10;lantern 1;dusk 5;sun 0 0 1 1;fold 9;")
+                .lights(), 4);
         Check.same("38: HOUR 2", x.hour(0), 2);
         Check.same("38: 60, 80 and 20", x.hour(1), 160);
         Check.same("38: of alike ones the first", Check.of(SQUARE + "fold 120;").hour(0), 0);
@@ -530,6 +546,25 @@ public final class PromisesTest {
         Check.same("44: these are no refusals", x.status(0) * 10 + x.status(1), 12);
     }
 
+    /** One MINUTE, due 1, by the farthest sun: a height of 10 reaches nine CELLS less one. */
+    private static void oneMinute() {
+        ShadeLedger x = Check.of("field 9 2;stall 0 0 10;stall 8 0 0;sun 77 2 1 8;fold 78;");
+        Check.same("15: due 1", x.due(), 1);
+        Check.same("11: CHILL", x.chill(1), 1);
+        Check.same("33: whose", x.whose(1), 0);
+        Check.same("34: harmless", x.harmless(0), 9);
+        Check.same("41: sun", x.suns(), 77);
+        Check.same("20: set", x.set(1, 0), 0);
+        Check.same("20: set of two", x.set(3, 1), 10);
+        Check.same("35: folded", x.folded(0), 77);
+        Check.same("16: first", x.first(0), 77);
+        ShadeLedger nine = Check.of("field 9 2;stall 0 0 8;stall 7 0 0;sun 77 2 1 9;fold 78;");
+        Check.same("10: nine CELLS for each 10", nine.minutes(0, 1), 1);
+        Check.same("11: CHILL", nine.chill(1), 1);
+        nine.tall(0, 7);
+        Check.same("10: 63 by 10", nine.minutes(0, 1), 0);
+    }
+
     public static void main(String[] arguments) {
         newObject();
         marketAnew();
@@ -556,6 +591,7 @@ public final class PromisesTest {
         foldedEarly();
         awnedLightsHours();
         outAndSuns();
+        oneMinute();
         imagesKept();
         refusals();
         Check.finish("PromisesTest");
