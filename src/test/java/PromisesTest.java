@@ -565,8 +565,7 @@ public final class PromisesTest {
         Check.same("10: 63 by 10", nine.minutes(0, 1), 0);
     }
 
-    public static void main(String[] arguments) {
-        newObject();
+    private static void all() {
         marketAnew();
         toldAndStall();
         lengthOfShadow();
@@ -594,6 +593,11 @@ public final class PromisesTest {
         oneMinute();
         imagesKept();
         refusals();
+    }
+
+    public static void main(String[] arguments) {
+        newObject();
+        Check.newAndUsed(PromisesTest::all);
         Check.finish("PromisesTest");
     }
 }
